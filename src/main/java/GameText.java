@@ -493,7 +493,15 @@ public final class GameText {
 
         private int emit(int does, int where, int a, int b, int c) {
             if (size >= op.length) {
-                grow(2 * op.length);
+                int room = 2 * op.length;
+                op = Arrays.copyOf(op, room);
+                place = Arrays.copyOf(place, room);
+                first = Arrays.copyOf(first, room);
+                second = Arrays.copyOf(second, room);
+                third = Arrays.copyOf(third, room);
+                kind = Arrays.copyOf(kind, room);
+                above = Arrays.copyOf(above, room);
+                below = Arrays.copyOf(below, room);
             }
             int node = size;
             op[node] = does;
@@ -506,17 +514,6 @@ public final class GameText {
             below[node] = 1;
             size++;
             return node;
-        }
-
-        private void grow(int room) {
-            op = Arrays.copyOf(op, room);
-            place = Arrays.copyOf(place, room);
-            first = Arrays.copyOf(first, room);
-            second = Arrays.copyOf(second, room);
-            third = Arrays.copyOf(third, room);
-            kind = Arrays.copyOf(kind, room);
-            above = Arrays.copyOf(above, room);
-            below = Arrays.copyOf(below, room);
         }
 
         private void copyValue(int from, int to) {
@@ -621,24 +618,21 @@ public final class GameText {
                 if (words.kind == WORD_FINIS) {
                     return want == WANT_ITEM;
                 }
-                if (!takes()) {
+                boolean stands = false;
+                if (want == WANT_OPERATOR) {
+                    stands = takesOperator();
+                } else if (want == WANT_OPERAND) {
+                    stands = takesOperand();
+                } else if (want == WANT_ITEM) {
+                    stands = takesItem();
+                } else {
+                    stands = want <= WANT_BOOL_END ? takesInDefinition() : takesInBranch();
+                }
+                if (!stands) {
                     return false;
                 }
             }
             return false;
-        }
-
-        private boolean takes() {
-            if (want == WANT_OPERAND) {
-                return takesOperand();
-            }
-            if (want == WANT_OPERATOR) {
-                return takesOperator();
-            }
-            if (want == WANT_ITEM) {
-                return takesItem();
-            }
-            return want <= WANT_BOOL_END ? takesInDefinition() : takesInBranch();
         }
 
         private boolean takesItem() {
@@ -680,7 +674,8 @@ public final class GameText {
             height = 0;
             // A set's rule stands in the set's '('.
             levels = why == ROLE_SET ? 1 : 0;
-            return wants(WANT_OPERAND);
+            want = WANT_OPERAND;
+            return true;
         }
 
         private boolean takesInDefinition() {
@@ -813,12 +808,8 @@ public final class GameText {
             return wants(WANT_OPERAND);
         }
 
-        private int waiting() {
-            return height > 0 ? waits[height - 1] : NONE;
-        }
-
         private int holding() {
-            switch (waiting()) {
+            switch (height > 0 ? waits[height - 1] : NONE) {
                 case CHOOSE:
                     return HOLDS_CHOICE;
                 case OR:
@@ -934,7 +925,7 @@ public final class GameText {
             if (height == 0) {
                 return closesRule(words.kind);
             }
-            int top = waiting();
+            int top = waits[height - 1];
             if (words.kind == ')' && top == OPEN) {
                 height--;
                 levels--;
@@ -1087,7 +1078,13 @@ public final class GameText {
             machine.load(text);
             place = NONE;
             for (int node = 0; node < code.size; node++) {
-                int fault = code.op[node] < RULE_END ? looksAtValue(node) : looksAtPart(node);
+                int does = code.op[node];
+                int fault = 0;
+                if (does < RULE_END) {
+                    fault = looksAtValue(node);
+                } else {
+                    fault = does == FINISH ? finishes() : looksAtPart(node);
+                }
                 if (fault != 0) {
                     return fault;
                 }
@@ -1198,10 +1195,8 @@ public final class GameText {
                     return text.commands >= MAX_COMMANDS ? fails(FAULT_MANY, code.place[node]) : 0;
                 case BRANCH:
                     return looksAtBranch(node);
-                case SET:
-                    return looksAtSet(node);
                 default:
-                    return finishes();
+                    return looksAtSet(node);
             }
         }
 
@@ -1563,7 +1558,10 @@ public final class GameText {
             int other = code.second[at];
             long left = (long) code.above[one] * code.below[other];
             long right = (long) code.above[other] * code.below[one];
-            return Long.compare(left, right);
+            if (left == right) {
+                return 0;
+            }
+            return left < right ? -1 : 1;
         }
 
         private static boolean holds(int does, int order) {
