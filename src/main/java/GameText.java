@@ -74,45 +74,44 @@ public final class GameText {
     private static final int KIND_TRUTH = 2;
 
     // What a node of the code does; a rule's nodes stand behind those that they are made of.
-    private static final int NUMBER = 0;
-    private static final int TRUTH = 1;
-    private static final int NAME = 2;
-    private static final int VAR = 3;
-    private static final int FORMULA = 4;
-    private static final int ADD = 5;
-    private static final int SUBTRACT = 6;
-    private static final int MULTIPLY = 7;
-    private static final int DIVIDE = 8;
-    private static final int REST = 9;
-    private static final int NEGATE = 10;
-    private static final int EQUAL = 11;
-    private static final int UNEQUAL = 12;
-    private static final int LESS = 13;
-    private static final int AT_MOST = 14;
-    private static final int MORE = 15;
-    private static final int AT_LEAST = 16;
-    private static final int NOT = 17;
-    private static final int AND = 18;
-    private static final int OR = 19;
-    private static final int CHOOSE = 20;
-    private static final int LEAST = 21;
-    private static final int MOST = 22;
-    private static final int KEEP = 23;
-    private static final int SKIP_IF_FALSE = 24;
-    private static final int SKIP_IF_TRUE = 25;
-    private static final int GO = 26;
-    private static final int RULE_END = 27;
-    private static final int CONST_ITEM = 28;
-    private static final int FORMULA_ITEM = 29;
-    private static final int VAR_ITEM = 30;
-    private static final int TARGET_ITEM = 31;
-    private static final int COMMAND_ITEM = 32;
-    private static final int BRANCH = 33;
-    private static final int SET = 34;
-    private static final int FINISH = 35;
+    private static final int VALUE = 0;
+    private static final int NAME = 1;
+    private static final int VAR = 2;
+    private static final int FORMULA = 3;
+    private static final int ADD = 4;
+    private static final int SUBTRACT = 5;
+    private static final int MULTIPLY = 6;
+    private static final int DIVIDE = 7;
+    private static final int REST = 8;
+    private static final int NEGATE = 9;
+    private static final int EQUAL = 10;
+    private static final int UNEQUAL = 11;
+    private static final int LESS = 12;
+    private static final int AT_MOST = 13;
+    private static final int MORE = 14;
+    private static final int AT_LEAST = 15;
+    private static final int NOT = 16;
+    private static final int AND = 17;
+    private static final int OR = 18;
+    private static final int CHOOSE = 19;
+    private static final int LEAST = 20;
+    private static final int MOST = 21;
+    private static final int KEEP = 22;
+    private static final int SKIP_IF_FALSE = 23;
+    private static final int SKIP_IF_TRUE = 24;
+    private static final int GO = 25;
+    private static final int RULE_END = 26;
+    private static final int CONST_ITEM = 27;
+    private static final int FORMULA_ITEM = 28;
+    private static final int VAR_ITEM = 29;
+    private static final int TARGET_ITEM = 30;
+    private static final int COMMAND_ITEM = 31;
+    private static final int BRANCH = 32;
+    private static final int SET = 33;
+    private static final int FINISH = 34;
     // These two wait on the parser's stack only.
-    private static final int OPEN = 36;
-    private static final int QUESTION = 37;
+    private static final int OPEN = 35;
+    private static final int QUESTION = 36;
 
     // How strongly what waits on the parser's stack holds what stands behind it.
     private static final int HOLDS_NOTHING = 0;
@@ -126,15 +125,14 @@ public final class GameText {
     private static final int HOLDS_SIGN = 8;
 
     // What a rule is for.
-    private static final int ROLE_CONST = 0;
-    private static final int ROLE_FORMULA = 1;
-    private static final int ROLE_LOW = 2;
-    private static final int ROLE_HIGH = 3;
-    private static final int ROLE_INIT = 4;
-    private static final int ROLE_TARGET = 5;
-    private static final int ROLE_GUARD = 6;
-    private static final int ROLE_CHANCE = 7;
-    private static final int ROLE_SET = 8;
+    private static final int ROLE_DEFINED = 0;
+    private static final int ROLE_LOW = 1;
+    private static final int ROLE_HIGH = 2;
+    private static final int ROLE_INIT = 3;
+    private static final int ROLE_TARGET = 4;
+    private static final int ROLE_GUARD = 5;
+    private static final int ROLE_CHANCE = 6;
+    private static final int ROLE_SET = 7;
 
     // What the parser wants next.
     private static final int WANT_ITEM = 0;
@@ -598,7 +596,7 @@ public final class GameText {
             height = 0;
             code = made;
             want = WANT_ITEM;
-            role = ROLE_CONST;
+            role = ROLE_DEFINED;
             rulePlace = NONE;
             ruleStart = 0;
             levels = 0;
@@ -686,7 +684,7 @@ public final class GameText {
                     code.second[head] = words.size;
                     return kind == WORD_NAME && wants(code.op[head] == VAR_ITEM ? WANT_COLON : WANT_EQUALS);
                 case WANT_EQUALS:
-                    return kind == '=' && opensRule(code.op[head] == CONST_ITEM ? ROLE_CONST : ROLE_FORMULA);
+                    return kind == '=' && opensRule(ROLE_DEFINED);
                 case WANT_COLON:
                     return kind == ':' && wants(WANT_TYPE);
                 case WANT_TYPE:
@@ -765,11 +763,11 @@ public final class GameText {
             }
             switch (words.kind) {
                 case WORD_NUMBER:
-                    return takesValue(NUMBER, KIND_NUMBER, words.value);
+                    return takesValue(KIND_NUMBER, words.value);
                 case KEY_TRUE:
-                    return takesValue(TRUTH, KIND_TRUTH, 1);
+                    return takesValue(KIND_TRUTH, 1);
                 case KEY_FALSE:
-                    return takesValue(TRUTH, KIND_TRUTH, 0);
+                    return takesValue(KIND_TRUTH, 0);
                 case WORD_NAME:
                     last = code.emit(NAME, words.start, words.start, words.size, NONE);
                     return wants(WANT_OPERATOR);
@@ -788,8 +786,8 @@ public final class GameText {
             }
         }
 
-        private boolean takesValue(int does, int kind, int value) {
-            last = code.emit(does, words.start, NONE, NONE, NONE);
+        private boolean takesValue(int kind, int value) {
+            last = code.emit(VALUE, words.start, NONE, NONE, NONE);
             code.kind[last] = kind;
             code.above[last] = value;
             return wants(WANT_OPERATOR);
@@ -1162,7 +1160,7 @@ public final class GameText {
             int index = names.index[known];
             if (names.sort[known] == CONST_ITEM) {
                 code.copyValue(index, node);
-                code.op[node] = code.kind[node] == KIND_TRUTH ? TRUTH : NUMBER;
+                code.op[node] = VALUE;
             } else if (names.sort[known] == FORMULA_ITEM) {
                 code.op[node] = FORMULA;
                 code.first[node] = index;

@@ -80,6 +80,10 @@ public final class CallsTest {
         full.end(4);
         Check.due("2: just full", 16384, full.feed(blanks, blanks, blanks, blanks, blanks));
         Check.due("2: one too many", -1, full.feed(blanks, blanks, blanks, blanks, blanks));
+        Check.due("2: 16365", 16365, full.end(1));
+        Check.due("2: one would be too many by one", -1, full.feed(blanks, blanks, blanks, blanks, blanks));
+        full.end(19);
+        Check.due("2: just full again", 16384, full.feed(blanks, blanks, blanks, blanks, blanks));
         Check.due("2: a full tape without a target", 10, full.compile());
         Check.due("2: its place", 16384, full.place());
     }
@@ -176,6 +180,11 @@ public final class CallsTest {
         Check.due("7: states", 3, game.states());
         Check.due("7: explore again", 0, game.explore());
         Check.due("7: the same states", 3, game.states());
+        Check.due("7: compile", 0, Check.compile(game, GAME));
+        Check.due("7: a text with a fault behind it", 2, Check.compile(game, "var y: 5..6; formula g = y; target h;"));
+        Check.due("7: the text that stayed is explored", 0, game.explore());
+        Check.due("7: it has its states", 3, game.states());
+        Check.due("7: and its vars", 2, game.variable(2, 0));
     }
 
     private static void promise8() {
@@ -284,6 +293,42 @@ public final class CallsTest {
         Check.due("15: none before exploring", -1, new GameText().branch(0, 0, 0, 0));
     }
 
+    /** What stood on the tape before, or behind an end(), must not be read. */
+    private static void nothingIsLeft() {
+        String[][] cut = {{"const a = 1", "1111111111"}, {"const a = b", "bbbbbbbbbb"}, {"const a = 1 -", ">>"},
+            {"const a = 1 <", "=1;"}, {"const a = 1 >", "=1;"}, {"const a = ", "1;"}, {"const a = !", "=1;"}, {"#", "\n@"},
+            {"const a = 1 # ", ";"}};
+        for (String[] parts : cut) {
+            GameText game = new GameText();
+            String behind = parts[1] + Check.times(" ", 20 - (parts[0].length() + parts[1].length()) % 20);
+            String all = parts[0] + behind;
+            Check.feed(game, all);
+            int more = all.length() - parts[0].length();
+            for (; more > 20; more -= 20) {
+                game.end(0);
+            }
+            Check.due("cut to " + parts[0], parts[0].length(), game.end(20 - more));
+            int due = parts[0].equals("#") ? 10 : 1;
+            Check.due("compile of " + parts[0], due, game.compile());
+            Check.due("place of " + parts[0], parts[0].length(), game.place());
+        }
+        GameText game = new GameText();
+        StringBuilder formulas = new StringBuilder("target true;");
+        for (int i = 0; i < 60; i++) {
+            formulas.append("formula f").append(i).append("=").append(i == 0 ? "1/4" : "f" + (i - 1)).append(";");
+        }
+        for (int i = 0; i < 5; i++) {
+            Check.due("60 formulas again", 0, Check.compile(game, formulas.toString()));
+            Check.due("60 formulas again", 60, game.items(1));
+            Check.due("another text", 0, Check.compile(game, "var a: 2..9; var b: 0..1; formula f = a + b; target f = 3;"
+                + "max f < 3 -> 1/f: stay + 1 - 1/f: (b' = 1);"));
+            Check.due("they are explored", 0, game.explore());
+            Check.due("they are two", 2, game.states());
+            Check.due("a text with a fault", 2, Check.compile(game, formulas + "max f60 -> 1: stay;"));
+            Check.due("its states are as before", 2, game.states());
+        }
+    }
+
     private static void readmeExample() {
         GameText game = new GameText();
         game.feed(0x76617220, 0x783a2030, 0x2e2e313b, 0x74617267, 0x65742078);
@@ -313,6 +358,7 @@ public final class CallsTest {
         promise13();
         promise14();
         promise15();
+        nothingIsLeft();
         readmeExample();
         Check.finish("CallsTest");
     }

@@ -24,6 +24,11 @@ public final class TextsTest {
         Check.compiles("target true@.;", 1);
         Check.compiles("const @_a = 1;", 1);
         Check.compiles("const a_1 = 1; const A_1 = 2; const a__ = 3;" + T, 0);
+        Check.compiles("const A = 1; const Z = A; const a = Z; const z = a; const A0Z9az_ = z;" + T, 0);
+        for (char c : new char[] {'@', '[', '`', '{', '"', '$', '.', '\\', '^', '~', '}', ']'}) {
+            Check.due("no word: " + c, 1, Check.compile(new GameText(), T + c));
+            Check.due("no word in a name: " + c, 1, Check.compile(new GameText(), "const a" + c + "b=1;" + T));
+        }
         Check.compiles("const abcdefghijabcdefghijabcdefghijabcdefghij = 1;" + T, 0);
         Check.compiles("const @abcdefghijabcdefghijabcdefghijabcdefghijk = 1;" + T, 1);
         Check.compiles("const a = 999999999; const b = 000000001;" + T, 0);
@@ -202,6 +207,7 @@ public final class TextsTest {
         Check.compiles("var x: 0..1; max true -> 1: (x' = 1) & (@x' = 1);" + T, 4);
         Check.compiles("var x: 0..1; max true -> 1: (x' = 1) & (@x' = b);" + T, 4);
         Check.compiles("var x: 0..1; var y: bool; max true -> 1: (x' = 1) & (y' = true) & (@x' = 1);" + T, 4);
+        Check.compiles("var x: 0..1; var y: bool; max true -> 1: (y' = true) & (x' = 1) & (@x' = 1);" + T, 4);
         Check.compiles("var x: 0..1; max true -> 1: (x' = 1) + 0: (x' = 1);" + T, 0);
     }
 
@@ -232,6 +238,9 @@ public final class TextsTest {
         Check.compiles("const a = 99999 @* 99999;" + T, 6);
         Check.compiles("const a = 1/99999@/99999;" + T, 6);
         Check.compiles("const a = 1/31623 @* (1/31623);" + T, 6);
+        Check.compiles("const a = 31250 @* 32000;" + T, 6);
+        Check.compiles("const a = -31250 @* 32000;" + T, 6);
+        Check.compiles("const a = 1/31250 @/ 32000;" + T, 6);
         Check.compiles("const a = 31622 * 31622; const b = 1/31622/31622;" + T, 0);
         Check.compiles("const a = 999999999 / 999999999 * 999999999;" + T, 0);
         Check.compiles("const a = 999999998 * (1/999999998);" + T, 0);
@@ -326,6 +335,7 @@ public final class TextsTest {
         Check.explores("target false; @min true -> 1: stay + 1: stay;", 11, 0);
         Check.explores("target false; @max true -> 1/31627: stay + 1/31643: stay;", 6, 0);
         Check.explores("target false; @max true -> 1/31627: stay + 1 - 1/31627: stay + 1/31643: stay;", 6, 0);
+        Check.explores("target false; @max true -> 1/512: stay + 1/1953125: stay;", 6, 0);
         Check.explores("target false; max true -> 1/999999999: stay + 999999998/999999999: stay;", 0, 0);
         String x = "var x: 0..3; var b: bool; target false; ";
         Check.explores(x + "max true -> 1: @(x' = 1/2);", 8, 0);
