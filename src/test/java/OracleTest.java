@@ -8,8 +8,9 @@ import java.util.Map;
 import java.util.Random;
 
 /**
- * Random texts (of fixed seeds), each read by GameText and by a second reader that was written from the
- * document alone: by recursion, over trees, with numbers of any size. Both must answer the same.
+ * Random texts (of fixed seeds), each read by GameText and by a second reader that is made another way:
+ * by recursion, over trees, with numbers of any size. Both must answer the same. Both are by one author,
+ * so this finds slips, but no wrong reading of the document.
  */
 public final class OracleTest {
     private static final BigInteger LARGE = BigInteger.valueOf(1000000000);
